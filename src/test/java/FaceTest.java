@@ -1,0 +1,128 @@
+import java.io.IOException;
+import java.lang.reflect.Constructor;
+import java.lang.reflect.Field;
+import java.lang.reflect.Member;
+import java.lang.reflect.Method;
+import java.lang.reflect.Modifier;
+import java.nio.file.Files;
+import java.nio.file.Path;
+import java.util.Arrays;
+import java.util.Set;
+import java.util.TreeSet;
+
+/** The class's face is that of the document, and its source stays within the rules that a text shows. */
+public final class FaceTest {
+    private static final String[] FACE = {
+        "int plain(int) IllegalArgumentException IllegalStateException",
+        "int name(int) IllegalArgumentException IllegalStateException",
+        "int wheel(int,int) IndexOutOfBoundsException IllegalArgumentException IllegalStateException",
+        "int turn(int,int) IndexOutOfBoundsException IllegalStateException",
+        "int tell(int,int,int) IndexOutOfBoundsException IllegalArgumentException IllegalStateException",
+        "int axle(int,int) IndexOutOfBoundsException IllegalStateException",
+        "int end(int,int) IndexOutOfBoundsException IllegalArgumentException IllegalStateException",
+        "int either(int,int,int) IndexOutOfBoundsException IllegalStateException",
+        "int undo() IllegalStateException",
+        "int part(int,int) IndexOutOfBoundsException",
+        "int type(int,int) IndexOutOfBoundsException",
+        "int code(int,int) IndexOutOfBoundsException",
+        "int count(int) IndexOutOfBoundsException",
+        "boolean same(int,int) IndexOutOfBoundsException",
+        "boolean fits(int,int) IndexOutOfBoundsException",
+        "int goes(int,int) IndexOutOfBoundsException",
+        "int first(int) IndexOutOfBoundsException",
+        "int longest()",
+        "double mean()",
+        "long digest()",
+    };
+    private static final String[] NOT_WRITTEN = {
+        "import ", "->", "::", "Exact(", "Object", "synchronized", "assert", "finally", "catch", "System.",
+        "Thread", "random", "Random", "\"", "'", "instanceof", "protected",
+    };
+    private static int wrong = 0;
+
+    private static void due(String what, Object got, Object want) {
+        if (!got.equals(want)) {
+            wrong++;
+            System.out.println(what + " is " + got + ", due is " + want);
+        }
+    }
+
+    private static String written(Method m) {
+        StringBuilder s = new StringBuilder(m.getReturnType().getName()).append(' ').append(m.getName()).append('(');
+        for (Class<?> c : m.getParameterTypes()) {
+            s.append(s.charAt(s.length() - 1) == '(' ? "" : ",").append(c.getName());
+        }
+        s.append(')');
+        for (Class<?> c : m.getExceptionTypes()) {
+            s.append(' ').append(c.getSimpleName());
+        }
+        return s.toString();
+    }
+
+    private static void methods() {
+        Set<String> got = new TreeSet<>();
+        Set<String> names = new TreeSet<>();
+        for (Method m : GearTypes.class.getDeclaredMethods()) {
+            if (Modifier.isPublic(m.getModifiers())) {
+                got.add(written(m));
+                names.add(m.getName());
+                due(m.getName() + " is static", Modifier.isStatic(m.getModifiers()), false);
+            }
+        }
+        due("the face", got, new TreeSet<>(Arrays.asList(FACE)));
+        for (Method m : GearTypes.class.getDeclaredMethods()) {
+            boolean hidden = Modifier.isPrivate(m.getModifiers());
+            due(m.getName() + " is private with a public name", hidden && names.contains(m.getName()), false);
+            due(m.getName() + " is public or private", hidden || names.contains(m.getName()), true);
+        }
+    }
+
+    private static void otherMembers() {
+        int modifiers = GearTypes.class.getModifiers();
+        due("public and final", Modifier.isPublic(modifiers) && Modifier.isFinal(modifiers), true);
+        Constructor<?>[] made = GearTypes.class.getDeclaredConstructors();
+        due("constructors", made.length, 1);
+        due("its parameters", made[0].getParameterCount(), 0);
+        due("it is public", Modifier.isPublic(made[0].getModifiers()), true);
+        for (Field f : GearTypes.class.getDeclaredFields()) {
+            due(f.getName() + " is private and final", isPrivateAndFinal(f), true);
+        }
+        for (Class<?> c : GearTypes.class.getDeclaredClasses()) {
+            due(c.getName() + " is static", Modifier.isStatic(c.getModifiers()), true);
+            due(c.getName() + " is public", Modifier.isPublic(c.getModifiers()), false);
+            for (Field f : c.getDeclaredFields()) {
+                boolean state = Modifier.isStatic(f.getModifiers()) && !Modifier.isFinal(f.getModifiers());
+                due(c.getName() + "." + f.getName() + " is static state", state, false);
+            }
+        }
+    }
+
+    private static boolean isPrivateAndFinal(Member m) {
+        return Modifier.isPrivate(m.getModifiers()) && Modifier.isFinal(m.getModifiers());
+    }
+
+    private static void source() throws IOException {
+        Path path = Path.of("src/main/java/GearTypes.java");
+        int number = 0;
+        for (String line : Files.readAllLines(path)) {
+            number++;
+            String text = line.strip();
+            if (text.startsWith("//") || text.startsWith("*") || text.startsWith("/*")) {
+                continue;
+            }
+            for (String part : NOT_WRITTEN) {
+                due("line " + number + " with " + part, line.contains(part), false);
+            }
+        }
+    }
+
+    public static void main(String[] args) throws IOException {
+        methods();
+        otherMembers();
+        source();
+        if (wrong != 0) {
+            System.exit(1);
+        }
+        System.out.println("the face is as due");
+    }
+}
