@@ -275,9 +275,32 @@ public final class PromisesTest {
         due(10, "undo", x.undo(), 1);
         due(10, "undo", x.undo(), 0);
         refused(10, x, "undo of none", x::undo, STATE);
+        undoneParts();
         GearTypes y = full();
         due(10, "undo of the 40th", y.undo(), 39);
         due(10, "there is room again", y.plain(0), 39);
+    }
+
+    /** What was broken off is no part any more, whatever was known of its type. */
+    private static void undoneParts() {
+        GearTypes x = new GearTypes();
+        int n = x.name(0);
+        int left = x.wheel(0, x.end(n, 0));
+        int weight = x.plain(0);
+        int axle = x.axle(weight, weight);
+        due(18, "an axle turns it", x.first(left), axle);
+        x.undo();
+        due(18, "the axle is gone", x.first(left), -1);
+        due(19, "the longest", x.longest(), left);
+        due(20, "mean", x.mean(), 3.0);
+        refused(13, x, "code of what is gone", () -> x.code(axle, 0), INDEX);
+        refused(12, x, "type of what is gone", () -> x.type(axle, 0), INDEX);
+        refused(11, x, "part of what is gone", () -> x.part(axle, 0), INDEX);
+        refused(15, x, "same as what is gone", () -> x.same(axle, 0), INDEX);
+        refused(16, x, "fits what is gone", () -> x.fits(0, axle), INDEX);
+        refused(17, x, "goes with what is gone", () -> x.goes(0, axle), INDEX);
+        refused(18, x, "first of what is gone", () -> x.first(axle), INDEX);
+        refused(7, x, "axle of what is gone", () -> x.axle(axle, 0), INDEX);
     }
 
     // ---- the type of a part
@@ -389,6 +412,21 @@ public final class PromisesTest {
         due(17, "goes of 31 codes", x.goes(doubler, fifteen), 0);
         due(14, "parts with the fault 4", x.count(5), 3);
         refused(13, x, "no code with a fault", () -> x.code(sixtyThree, 0), INDEX);
+    }
+
+    private static void deepest() {
+        GearTypes x = new GearTypes();
+        x.name(0);
+        for (int i = 1; i < 40; i++) {
+            x.wheel((i - 1) % 10, i - 1);
+        }
+        due(11, "the deepest", facts(x, 39), "3 38 -1 -1 8 40 40");
+        due(12, "29 wheels in one another", types(x, 29), "0 -1 59 29 30");
+        due(13, "the last variable is that of the first wheel", x.code(29, 58), 38);
+        faulty(x, "30 wheels in one another", 30, 4, 30);
+        faulty(x, "39 wheels in one another", 39, 4, 30);
+        due(19, "longest", x.longest(), 29);
+        due(14, "too long", x.count(5), 10);
     }
 
     /** What name 0 stands for gets too long behind the name, which is asked again only where it is used. */
@@ -666,6 +704,7 @@ public final class PromisesTest {
         faultOrder();
         roundAbout();
         longRows();
+        deepest();
         longerLater();
         sharedTypes();
         telling();
