@@ -1,7 +1,6 @@
 import java.io.IOException;
 import java.lang.reflect.Constructor;
 import java.lang.reflect.Field;
-import java.lang.reflect.Member;
 import java.lang.reflect.Method;
 import java.lang.reflect.Modifier;
 import java.nio.file.Files;
@@ -35,9 +34,14 @@ public final class FaceTest {
         "long digest()",
     };
     private static final String[] NOT_WRITTEN = {
-        "import ", "->", "::", "Exact(", "Object", "synchronized", "assert", "finally", "catch", "System.",
-        "Thread", "random", "Random", "\"", "'", "instanceof", "protected",
+        "::", "Exact(", "synchronized", "assert ", "finally", "Thread", "random", "Random", "protected",
+        "nanoTime", "currentTimeMillis", "getMessage", "hashCode", "native ", "package ",
     };
+    private static final Set<String> IMPORTED = Set.of("java.util.ArrayList", "java.util.List", "java.util.Arrays",
+        "java.util.Iterator", "java.util.NoSuchElementException");
+    private static final Set<String> OF_THE_MACHINE = Set.of("ArrayIndexOutOfBoundsException",
+        "NullPointerException", "ClassCastException", "NegativeArraySizeException", "ArrayStoreException",
+        "Throwable", "Error", "(Exception ");
     private static int wrong = 0;
 
     private static void due(String what, Object got, Object want) {
@@ -71,6 +75,9 @@ public final class FaceTest {
         }
         due("the face", got, new TreeSet<>(Arrays.asList(FACE)));
         for (Method m : GearTypes.class.getDeclaredMethods()) {
+            if (m.isSynthetic()) {
+                continue;
+            }
             boolean hidden = Modifier.isPrivate(m.getModifiers());
             due(m.getName() + " is private with a public name", hidden && names.contains(m.getName()), false);
             due(m.getName() + " is public or private", hidden || names.contains(m.getName()), true);
@@ -85,11 +92,13 @@ public final class FaceTest {
         due("its parameters", made[0].getParameterCount(), 0);
         due("it is public", Modifier.isPublic(made[0].getModifiers()), true);
         for (Field f : GearTypes.class.getDeclaredFields()) {
-            due(f.getName() + " is private and final", isPrivateAndFinal(f), true);
+            boolean state = Modifier.isStatic(f.getModifiers()) && !Modifier.isFinal(f.getModifiers());
+            due(f.getName() + " is private", f.isSynthetic() || Modifier.isPrivate(f.getModifiers()), true);
+            due(f.getName() + " is static state", state, false);
         }
         for (Class<?> c : GearTypes.class.getDeclaredClasses()) {
-            due(c.getName() + " is static", Modifier.isStatic(c.getModifiers()), true);
-            due(c.getName() + " is public", Modifier.isPublic(c.getModifiers()), false);
+            int of = c.getModifiers();
+            due(c.getName() + " is public or protected", Modifier.isPublic(of) || Modifier.isProtected(of), false);
             for (Field f : c.getDeclaredFields()) {
                 boolean state = Modifier.isStatic(f.getModifiers()) && !Modifier.isFinal(f.getModifiers());
                 due(c.getName() + "." + f.getName() + " is static state", state, false);
@@ -97,8 +106,11 @@ public final class FaceTest {
         }
     }
 
-    private static boolean isPrivateAndFinal(Member m) {
-        return Modifier.isPrivate(m.getModifiers()) && Modifier.isFinal(m.getModifiers());
+    private static void imported(int number, String text) {
+        if (text.startsWith("import ")) {
+            String name = text.substring("import ".length()).replace(";", "").strip();
+            due("line " + number + " imports what the rules list", IMPORTED.contains(name), true);
+        }
     }
 
     private static void source() throws IOException {
@@ -110,9 +122,14 @@ public final class FaceTest {
             if (text.startsWith("//") || text.startsWith("*") || text.startsWith("/*")) {
                 continue;
             }
+            imported(number, text);
             for (String part : NOT_WRITTEN) {
                 due("line " + number + " with " + part, line.contains(part), false);
             }
+            for (String part : OF_THE_MACHINE) {
+                due("line " + number + " with " + part, line.contains(part), false);
+            }
+            due("line " + number + " with System", line.replace("System.arraycopy", "").contains("System."), false);
         }
     }
 

@@ -1,80 +1,39 @@
-import java.util.Arrays;
-
 /** Each promise of the document by hand: ordinary calls, the edges that it names, and wrong ones. */
 public final class PromisesTest {
-    private static int wrong = 0;
-    private static int checks = 0;
-
-    private interface Call {
-        Object answer();
-    }
+    private static final String INDEX = Checks.INDEX;
+    private static final String ARGUMENT = Checks.ARGUMENT;
+    private static final String STATE = Checks.STATE;
 
     private static void due(int promise, String call, Object got, Object want) {
-        checks++;
-        if (!got.equals(want)) {
-            wrong++;
-            System.out.println("promise " + promise + ": " + call + " answered " + got + ", due is " + want);
-        }
+        Checks.due("promise " + promise + ": " + call, got, want);
     }
 
-    private static String told(Call call) {
-        try {
-            return String.valueOf(call.answer());
-        } catch (RuntimeException e) {
-            return e.getClass().getName().replace("java.lang.", "");
-        }
+    private static void refused(int promise, Recorded x, String call, Recorded.Call refusedCall, String want) {
+        Checks.refused(x, "promise " + promise + ": " + call, refusedCall, want);
     }
 
-    private static final String INDEX = "IndexOutOfBoundsException";
-    private static final String ARGUMENT = "IllegalArgumentException";
-    private static final String STATE = "IllegalStateException";
-
-    /** The call throws this, and changes nothing that the object tells. */
-    private static void refused(int promise, GearTypes x, String what, Call call, String want) {
-        String before = Arrays.toString(state(x));
-        due(promise, what, told(call), want);
-        due(promise, what + " changes nothing", Arrays.toString(state(x)), before);
+    private static String row(Recorded x, int part) {
+        return x.row(part);
     }
 
-    private static long[] state(GearTypes x) {
-        return new long[] {x.count(0), x.digest(), x.longest(), Double.doubleToLongBits(x.mean())};
+    private static String facts(Recorded x, int part) {
+        return x.facts(part);
     }
 
-    private static String row(GearTypes x, int part) {
-        StringBuilder s = new StringBuilder();
-        for (int i = 0; i < x.type(part, 2); i++) {
-            s.append(i == 0 ? "" : " ").append(x.code(part, i));
-        }
-        return s.toString();
+    private static String types(Recorded x, int part) {
+        return x.types(part);
     }
 
-    private static String facts(GearTypes x, int part) {
-        StringBuilder s = new StringBuilder();
-        for (int i = 0; i < 7; i++) {
-            s.append(i == 0 ? "" : " ").append(x.part(part, i));
-        }
-        return s.toString();
+    private static void typed(Recorded x, String what, int part, String want) {
+        Checks.typed(x, what, part, want);
     }
 
-    private static String types(GearTypes x, int part) {
-        StringBuilder s = new StringBuilder();
-        for (int i = 0; i < 5; i++) {
-            s.append(i == 0 ? "" : " ").append(x.type(part, i));
-        }
-        return s.toString();
+    private static void faulty(Recorded x, String what, int part, int fault, int at) {
+        Checks.faulty(x, what, part, fault, at);
     }
 
-    private static void typed(GearTypes x, String what, int part, String want) {
-        due(12, what + ", its fault", x.type(part, 0), 0);
-        due(13, what + ", its row", row(x, part), want);
-    }
-
-    private static void faulty(GearTypes x, String what, int part, int fault, int at) {
-        due(12, what, types(x, part), fault + " " + at + " 0 0 0");
-    }
-
-    private static GearTypes full() {
-        GearTypes x = new GearTypes();
+    private static Recorded full() {
+        Recorded x = new Recorded();
         for (int i = 0; i < 40; i++) {
             x.plain(i % 2);
         }
@@ -84,7 +43,7 @@ public final class PromisesTest {
     // ---- making
 
     private static void newObject() {
-        GearTypes x = new GearTypes();
+        Recorded x = new Recorded();
         for (int i = 0; i < 6; i++) {
             due(1, "count " + i, x.count(i), 0);
         }
@@ -96,7 +55,7 @@ public final class PromisesTest {
     }
 
     private static void plainOnes() {
-        GearTypes x = new GearTypes();
+        Recorded x = new Recorded();
         due(2, "plain 0", x.plain(0), 0);
         due(2, "plain 1", x.plain(1), 1);
         due(2, "facts of a weight", facts(x, 0), "0 -1 -1 -1 -1 1 1");
@@ -106,26 +65,26 @@ public final class PromisesTest {
         refused(2, x, "plain 2", () -> x.plain(2), ARGUMENT);
         refused(2, x, "plain -1", () -> x.plain(-1), ARGUMENT);
         refused(2, x, "plain least", () -> x.plain(Integer.MIN_VALUE), ARGUMENT);
-        GearTypes y = full();
+        Recorded y = full();
         refused(2, y, "a 41st", () -> y.plain(0), STATE);
         refused(2, y, "a wrong 41st", () -> y.plain(2), ARGUMENT);
     }
 
     private static void names() {
-        GearTypes x = new GearTypes();
+        Recorded x = new Recorded();
         due(3, "name 0", x.name(0), 0);
         due(3, "name 9", x.name(9), 1);
         due(3, "facts", facts(x, 1), "2 -1 -1 -1 9 1 1");
         faulty(x, "a name by itself", 1, 1, 1);
         refused(3, x, "name 10", () -> x.name(10), ARGUMENT);
         refused(3, x, "name -1", () -> x.name(-1), ARGUMENT);
-        GearTypes y = full();
+        Recorded y = full();
         refused(3, y, "a 41st", () -> y.name(0), STATE);
         refused(3, y, "a wrong 41st", () -> y.name(10), ARGUMENT);
     }
 
     private static void wheels() {
-        GearTypes x = new GearTypes();
+        Recorded x = new Recorded();
         int n = x.name(7);
         due(4, "wheel", x.wheel(7, n), 1);
         due(4, "facts", facts(x, 1), "3 0 -1 -1 7 2 2");
@@ -139,14 +98,14 @@ public final class PromisesTest {
         refused(4, x, "no part and no name", () -> x.wheel(10, 4), INDEX);
         refused(4, x, "no name", () -> x.wheel(10, 0), ARGUMENT);
         refused(4, x, "no name", () -> x.wheel(-1, 0), ARGUMENT);
-        GearTypes y = full();
+        Recorded y = full();
         refused(4, y, "a 41st", () -> y.wheel(0, 0), STATE);
         refused(4, y, "a 41st of no name", () -> y.wheel(10, 0), ARGUMENT);
         refused(4, y, "a 41st of no part", () -> y.wheel(0, 40), INDEX);
     }
 
     private static void turnings() {
-        GearTypes x = new GearTypes();
+        Recorded x = new Recorded();
         int weight = x.plain(0);
         int n = x.name(0);
         int same = x.wheel(0, n);
@@ -156,13 +115,13 @@ public final class PromisesTest {
         faulty(x, "a weight cannot be turned", x.turn(weight, weight), 2, 4);
         refused(5, x, "no wheel", () -> x.turn(5, 0), INDEX);
         refused(5, x, "no turning", () -> x.turn(0, -1), INDEX);
-        GearTypes y = full();
+        Recorded y = full();
         refused(5, y, "a 41st", () -> y.turn(0, 0), STATE);
         refused(5, y, "a 41st of no part", () -> y.turn(0, 40), INDEX);
     }
 
     private static void tellings() {
-        GearTypes x = new GearTypes();
+        Recorded x = new Recorded();
         int weight = x.plain(0);
         int n = x.name(3);
         due(6, "tell", x.tell(3, weight, n), 2);
@@ -174,13 +133,13 @@ public final class PromisesTest {
         refused(6, x, "no inside", () -> x.tell(-1, 0, -1), INDEX);
         refused(6, x, "no name", () -> x.tell(10, 0, 0), ARGUMENT);
         refused(6, x, "no name", () -> x.tell(-1, 0, 0), ARGUMENT);
-        GearTypes y = full();
+        Recorded y = full();
         refused(6, y, "a 41st", () -> y.tell(0, 0, 0), STATE);
         refused(6, y, "a 41st of no name", () -> y.tell(10, 0, 0), ARGUMENT);
     }
 
     private static void axles() {
-        GearTypes x = new GearTypes();
+        Recorded x = new Recorded();
         int weight = x.plain(0);
         int flag = x.plain(1);
         due(7, "axle", x.axle(weight, flag), 2);
@@ -188,13 +147,13 @@ public final class PromisesTest {
         typed(x, "axle", 2, "3 0 1");
         refused(7, x, "no left", () -> x.axle(3, 0), INDEX);
         refused(7, x, "no right", () -> x.axle(0, 3), INDEX);
-        GearTypes y = full();
+        Recorded y = full();
         refused(7, y, "a 41st", () -> y.axle(0, 0), STATE);
         refused(7, y, "a 41st of no part", () -> y.axle(40, 0), INDEX);
     }
 
     private static void ends() {
-        GearTypes x = new GearTypes();
+        Recorded x = new Recorded();
         int weight = x.plain(0);
         int flag = x.plain(1);
         int axle = x.axle(weight, flag);
@@ -211,13 +170,13 @@ public final class PromisesTest {
         refused(8, x, "no part", () -> x.end(20, 2), INDEX);
         refused(8, x, "no side", () -> x.end(0, 2), ARGUMENT);
         refused(8, x, "no side", () -> x.end(0, -1), ARGUMENT);
-        GearTypes y = full();
+        Recorded y = full();
         refused(8, y, "a 41st", () -> y.end(0, 0), STATE);
         refused(8, y, "a 41st of no side", () -> y.end(0, 2), ARGUMENT);
     }
 
     private static void choices() {
-        GearTypes x = new GearTypes();
+        Recorded x = new Recorded();
         int weight = x.plain(0);
         int flag = x.plain(1);
         int n = x.name(0);
@@ -231,13 +190,13 @@ public final class PromisesTest {
         refused(9, x, "no first", () -> x.either(10, 0, 0), INDEX);
         refused(9, x, "no second", () -> x.either(0, 10, 0), INDEX);
         refused(9, x, "no third", () -> x.either(0, 0, 10), INDEX);
-        GearTypes y = full();
+        Recorded y = full();
         refused(9, y, "a 41st", () -> y.either(0, 0, 0), STATE);
         refused(9, y, "a 41st of no part", () -> y.either(0, 0, 40), INDEX);
     }
 
     private static void greatest() {
-        GearTypes x = new GearTypes();
+        Recorded x = new Recorded();
         int flag = x.plain(1);
         int three = x.axle(flag, flag);
         int seven = x.axle(three, three);
@@ -263,7 +222,7 @@ public final class PromisesTest {
     }
 
     private static void undoing() {
-        GearTypes x = new GearTypes();
+        Recorded x = new Recorded();
         x.plain(0);
         long before = x.digest();
         x.name(0);
@@ -276,14 +235,14 @@ public final class PromisesTest {
         due(10, "undo", x.undo(), 0);
         refused(10, x, "undo of none", x::undo, STATE);
         undoneParts();
-        GearTypes y = full();
+        Recorded y = full();
         due(10, "undo of the 40th", y.undo(), 39);
         due(10, "there is room again", y.plain(0), 39);
     }
 
     /** What was broken off is no part any more, whatever was known of its type. */
     private static void undoneParts() {
-        GearTypes x = new GearTypes();
+        Recorded x = new Recorded();
         int n = x.name(0);
         int left = x.wheel(0, x.end(n, 0));
         int weight = x.plain(0);
@@ -306,7 +265,7 @@ public final class PromisesTest {
     // ---- the type of a part
 
     private static void ownVariables() {
-        GearTypes x = new GearTypes();
+        Recorded x = new Recorded();
         int weight = x.plain(0);
         int flag = x.plain(1);
         int a = x.name(0);
@@ -329,7 +288,7 @@ public final class PromisesTest {
     }
 
     private static void tellingsInTellings() {
-        GearTypes x = new GearTypes();
+        Recorded x = new Recorded();
         int weight = x.plain(0);
         int flag = x.plain(1);
         int a = x.name(0);
@@ -349,7 +308,7 @@ public final class PromisesTest {
     }
 
     private static void faultOrder() {
-        GearTypes x = new GearTypes();
+        Recorded x = new Recorded();
         int weight = x.plain(0);
         int flag = x.plain(1);
         int a = x.name(0);
@@ -375,7 +334,7 @@ public final class PromisesTest {
     }
 
     private static void roundAbout() {
-        GearTypes x = new GearTypes();
+        Recorded x = new Recorded();
         int flag = x.plain(1);
         int a = x.name(0);
         int b = x.name(1);
@@ -388,7 +347,7 @@ public final class PromisesTest {
 
     /** Rows have an odd number of codes, so 59 is the most and 61 is the least too long. */
     private static void longRows() {
-        GearTypes x = new GearTypes();
+        Recorded x = new Recorded();
         int weight = x.plain(0);
         int n = x.name(0);
         int pair = x.axle(n, n);
@@ -415,7 +374,7 @@ public final class PromisesTest {
     }
 
     private static void deepest() {
-        GearTypes x = new GearTypes();
+        Recorded x = new Recorded();
         x.name(0);
         for (int i = 1; i < 40; i++) {
             x.wheel((i - 1) % 10, i - 1);
@@ -431,7 +390,7 @@ public final class PromisesTest {
 
     /** What name 0 stands for gets too long behind the name, which is asked again only where it is used. */
     private static void longerLater() {
-        GearTypes x = new GearTypes();
+        Recorded x = new Recorded();
         int weight = x.plain(0);
         int a = x.name(0);
         int b = x.name(1);
@@ -450,7 +409,7 @@ public final class PromisesTest {
 
     /** The variables stand within one another, so written out the types would have thousands of codes. */
     private static void sharedTypes() {
-        GearTypes x = new GearTypes();
+        Recorded x = new Recorded();
         int[] n = new int[10];
         for (int i = 0; i < 10; i++) {
             n[i] = x.name(i);
@@ -478,7 +437,7 @@ public final class PromisesTest {
     // ---- parts and types
 
     private static void telling() {
-        GearTypes x = new GearTypes();
+        Recorded x = new Recorded();
         int a = x.name(4);
         int w = x.wheel(4, x.axle(a, a));
         due(11, "its part", x.part(w, 1), 1);
@@ -503,7 +462,7 @@ public final class PromisesTest {
     }
 
     private static void counting() {
-        GearTypes x = new GearTypes();
+        Recorded x = new Recorded();
         int weight = x.plain(0);
         int n = x.name(0);
         x.turn(weight, weight);
@@ -521,7 +480,7 @@ public final class PromisesTest {
     // ---- comparing
 
     private static void comparing() {
-        GearTypes x = new GearTypes();
+        Recorded x = new Recorded();
         int weight = x.plain(0);
         int flag = x.plain(1);
         int a = x.name(0);
@@ -561,7 +520,7 @@ public final class PromisesTest {
     }
 
     private static void fittingLongTypes() {
-        GearTypes x = new GearTypes();
+        Recorded x = new Recorded();
         int a = x.name(0);
         int b = x.name(1);
         int weight = x.plain(0);
@@ -587,7 +546,7 @@ public final class PromisesTest {
     }
 
     private static void going() {
-        GearTypes x = new GearTypes();
+        Recorded x = new Recorded();
         int a = x.name(0);
         int weight = x.plain(0);
         int id = x.wheel(0, a);
@@ -619,7 +578,7 @@ public final class PromisesTest {
     }
 
     private static void goingBeyondTheSize() {
-        GearTypes x = new GearTypes();
+        Recorded x = new Recorded();
         int part = x.plain(0);
         for (int i = 0; i < 4; i++) {
             part = x.axle(part, part);
@@ -632,7 +591,7 @@ public final class PromisesTest {
     }
 
     private static void longestAndMean() {
-        GearTypes x = new GearTypes();
+        Recorded x = new Recorded();
         x.name(0);
         due(19, "no part has a type", x.longest(), -1);
         due(20, "no part has a type", x.mean(), 0.0);
@@ -655,7 +614,7 @@ public final class PromisesTest {
     }
 
     private static void digests() {
-        GearTypes x = new GearTypes();
+        Recorded x = new Recorded();
         x.name(0);
         x.wheel(0, 0);
         x.axle(1, 1);
@@ -678,7 +637,7 @@ public final class PromisesTest {
             }
         }
         due(21, "digest", x.digest(), d);
-        GearTypes y = new GearTypes();
+        Recorded y = new Recorded();
         y.plain(0);
         long e = 1597;
         for (int value : new int[] {1, 1, 0, 0, 0, 0, 0, -1, -1, -1, -1, 1, 1, 0, -1, 1, 0, 1, 0}) {
@@ -715,9 +674,6 @@ public final class PromisesTest {
         goingBeyondTheSize();
         longestAndMean();
         digests();
-        System.out.println(checks + " checks, " + wrong + " wrong");
-        if (wrong != 0) {
-            System.exit(1);
-        }
+        Checks.end();
     }
 }

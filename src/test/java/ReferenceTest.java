@@ -449,7 +449,7 @@ public final class ReferenceTest {
         return r.below(3) == 0 ? made - 1 - r.below(Math.min(made, 4)) : r.below(made);
     }
 
-    private static void making(long run, GearTypes x, Mill m, Numbers r, int names, boolean wild) {
+    private static void making(long run, Recorded x, Mill m, Numbers r, int names, boolean wild) {
         int a = pick(r, m.parts.size(), wild);
         int b = pick(r, m.parts.size(), wild);
         int c = pick(r, m.parts.size(), wild);
@@ -470,7 +470,7 @@ public final class ReferenceTest {
         }
     }
 
-    private static void asking(long run, GearTypes x, Mill m, Numbers r) {
+    private static void asking(long run, Recorded x, Mill m, Numbers r) {
         int made = m.parts.size();
         int a = pick(r, made, true);
         int b = pick(r, made, true);
@@ -502,7 +502,7 @@ public final class ReferenceTest {
     }
 
     /** All pairs at the end, as a turning shows more faults than parts made by chance. */
-    private static void atTheEnd(long run, GearTypes x, Mill m) {
+    private static void atTheEnd(long run, Recorded x, Mill m) {
         int made = m.parts.size();
         for (int a = 0; a < made; a++) {
             int part = a;
@@ -526,7 +526,7 @@ public final class ReferenceTest {
 
     private static void run(long seed) {
         Numbers r = new Numbers(seed);
-        GearTypes x = new GearTypes();
+        Recorded x = new Recorded();
         Mill m = new Mill();
         boolean wild = r.below(3) == 0;
         int names = 1 + r.below(wild ? 10 : 4);
@@ -551,7 +551,7 @@ public final class ReferenceTest {
     /** Around each name that is told, wheels of the other names: what is its own is what shows here. */
     private static void closedRun(long seed) {
         Numbers r = new Numbers(seed ^ 0x5DEECE66DL);
-        GearTypes x = new GearTypes();
+        Recorded x = new Recorded();
         Mill m = new Mill();
         int names = 2 + r.below(3);
         for (int n = 0; n < names; n++) {
@@ -578,7 +578,7 @@ public final class ReferenceTest {
     // ---- runs with parts that are grown from the whole to the leaves, so that most names have types
 
     private static final class Grower {
-        final GearTypes x = new GearTypes();
+        final Recorded x = new Recorded();
         final Mill m = new Mill();
         final Numbers r;
         final long seed;
