@@ -84,6 +84,34 @@ public final class FaceTest {
         }
     }
 
+    /** The document's own lines of the face, its constructor ahead of them, are in the class as they stand. */
+    private static void asTheDocumentHasIt() throws IOException {
+        String document = Files.readString(Path.of("../shared/DOC.md"));
+        String text = Files.readString(Path.of("src/main/java/GearTypes.java")).replaceAll("\\s+", " ");
+        int from = document.indexOf("```java\n");
+        int to = document.indexOf("```", from + 3);
+        int members = 0;
+        int at = 0;
+        for (String line : document.substring(from, to).split("\n")) {
+            if (line.endsWith(";")) {
+                String member = line.strip().replace(";", " {");
+                int found = text.indexOf(member, at);
+                due("behind the one ahead of it stands \"" + member + "\", which", found >= 0, true);
+                at = Math.max(at, found);
+                members++;
+            }
+        }
+        due("the members that the document has", members, FACE.length + 1);
+    }
+
+    /** Ahead of which call each heading of the document stands. */
+    private static void headings() throws IOException {
+        String text = Files.readString(Path.of("src/main/java/GearTypes.java")).replaceAll("\\s+", " ");
+        due("making ahead of plain", text.contains("// ---- making public int plain("), true);
+        due("parts and types ahead of part", text.contains("// ---- parts and types public int part("), true);
+        due("comparing ahead of same", text.contains("// ---- comparing public boolean same("), true);
+    }
+
     private static void otherMembers() {
         int modifiers = GearTypes.class.getModifiers();
         due("public and final", Modifier.isPublic(modifiers) && Modifier.isFinal(modifiers), true);
@@ -135,6 +163,8 @@ public final class FaceTest {
 
     public static void main(String[] args) throws IOException {
         methods();
+        asTheDocumentHasIt();
+        headings();
         otherMembers();
         source();
         if (wrong != 0) {
